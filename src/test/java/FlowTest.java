@@ -257,6 +257,8 @@ public final class FlowTest {
                 DUE.method(0, 2, false, i(25, 0), i(8), i(30, 3), i(1), i(26, 0), i(31, 6), i(36, 0), i(18)), true);
         DUE.right("INIT on one way alone",
                 DUE.method(0, 2, false, i(1), i(32, 4), i(25, 0), i(36, 0), i(5), i(20)), false);
+        DUE.right("INIT on the way that comes first",
+                DUE.method(0, 2, false, i(1), i(32, 5), i(25, 0), i(36, 0), i(31, 6), i(0), i(5), i(20)), false);
         DUE.right("a row of a HANDLER that has no PLACE", guardedNowhere(), false);
     }
 
@@ -316,6 +318,8 @@ public final class FlowTest {
         join("NULL and RAW", i(5), i(35, 0), 0);
         join("RAW and RAW of another PLACE", i(35, 0), i(35, 0), 0);
         join("OBJECT and INT", two, i(1), 0);
+        DUE.right("INT and FLOAT on the STACK, of no use",
+                DUE.method(0, 0, false, i(1), i(32, 4), i(1), i(31, 5), i(2), i(18)), false);
         DUE.right("STACKS of 0 and 1", DUE.method(0, 0, false, i(1), i(32, 3), i(1), i(18)), false);
         DUE.right("STACKS of LONG, and INT INT",
                 DUE.method(0, 0, false, i(1), i(32, 4), i(4), i(31, 6), i(1), i(1), i(7), i(18)), false);
