@@ -1,6 +1,6 @@
 /** Promise 10: THE CHECK goes by the bytes alone. */
 public final class CheckTest {
-    private static final Due DUE = new Due();
+    private static final Due DUE = new Due("promise 10, THE CHECK");
 
     public static void main(String[] args) {
         ways();

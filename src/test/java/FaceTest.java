@@ -19,7 +19,7 @@ public final class FaceTest {
     }
 
     public static void main(String[] args) {
-        Due due = new Due();
+        Due due = new Due("the public face");
         due.is("REFUSED", MapForge.REFUSED, -1);
         due.is("NONE", MapForge.NONE, -2);
         due.is("FULL", MapForge.FULL, -3);

@@ -1,12 +1,15 @@
-/** Promise 9, and when a METHOD is WRONG (promise 8): what each INSTRUCTION takes and leaves. */
+import java.util.Arrays;
+
+/** Promises 8 and 9: what each INSTRUCTION takes and leaves in THE FLOW, JOIN, HANDLERS, and when a METHOD is WRONG. */
 public final class FlowTest {
-    private static final Due DUE = new Due();
+    private static final Due DUE = new Due("promises 8 and 9, THE FLOW");
     private static final int WRONG = -99;
 
     public static void main(String[] args) {
-        questions();
         stack();
+        smallOnes();
         sums();
+        edgesOfLocals();
         endings();
         locals();
         jumps();
@@ -53,24 +56,6 @@ public final class FlowTest {
         return numbers;
     }
 
-    private static void questions() {
-        MapForge x = ends("questions", code(i(3), i(1)), 3, 1);
-        for (int what : i(-1, 18, 19, 22, 30)) {
-            DUE.is("flow(0, " + what + ")", x.flow(0, what), MapForge.REFUSED);
-            DUE.is("flow(99, " + what + ")", x.flow(99, what), MapForge.REFUSED);
-        }
-        DUE.is("flow(-1, 0)", x.flow(-1, 0), MapForge.NONE);
-        DUE.is("flow(4, 0)", x.flow(4, 0), MapForge.NONE);
-        DUE.is("flow(3, 0)", x.flow(3, 0), 1);
-        DUE.is("flow(2, 21)", x.flow(2, 21), 0);
-        DUE.is("flow(0, 10)", x.flow(0, 10), MapForge.NONE);
-        DUE.is("flow(1, 10)", x.flow(1, 10), 3);
-        DUE.is("flow(1, 11)", x.flow(1, 11), MapForge.NONE);
-        x.change(0, 6, 0, 0);
-        DUE.is("WRONG: flow(0, 0)", x.flow(0, 0), MapForge.NONE);
-        DUE.is("WRONG: flow(0, 18)", x.flow(0, 18), MapForge.REFUSED);
-    }
-
     private static void stack() {
         ends("NOP", code(i(0)));
         ends("constants", code(i(1), i(2), i(3), i(4), i(5)), 1, 2, 3, 4, 5);
@@ -96,6 +81,79 @@ public final class FlowTest {
         ends("SWAP of one", code(i(1), i(9)), WRONG);
         ends("SWAP with a WIDE one", code(i(3), i(1), i(9)), WRONG);
         ends("SWAP of a WIDE one", code(i(1), i(3), i(9)), WRONG);
+    }
+
+    /** What comes on top by these: the six that are s, then the two WIDE ones. */
+    private static final int[][] ON_TOP = {i(1), i(2), i(5), i(25, 0), i(25, 1), i(35, 2), i(3), i(4)};
+    private static final int SMALL = 6;
+
+    /** In a CONSTRUCTOR (LOCAL 0 is RAW THIS, LOCAL 1 OBJECT 4): the STACK behind these INSTRUCTIONS, or null for WRONG. */
+    private static int[] stackBehind(int[]... code) {
+        MapForge x = DUE.method(3, 2, false, code);
+        x.argument(16 * 4 + 7);
+        DUE.write(x, i(5), i(20));
+        int depth = x.flow(code.length, 20);
+        if (depth < 0) {
+            DUE.is("make", x.make(), MapForge.WRONG);
+            return null;
+        }
+        int[] stack = new int[depth];
+        for (int k = 0; k < depth; k++) {
+            stack[k] = x.flow(code.length, 10 + k);
+        }
+        return stack;
+    }
+
+    private static void same(String what, int[] got, int[] want) {
+        DUE.is(what + " leaves " + Arrays.toString(got) + " for " + Arrays.toString(want), Arrays.equals(got, want), true);
+    }
+
+    /** 6 to 9 take each s, and nothing else but what 7 takes. */
+    private static void smallOnes() {
+        for (int a = 0; a < ON_TOP.length; a++) {
+            int[] one = stackBehind(ON_TOP[a]);
+            boolean small = a < SMALL;
+            same("POP of " + one[0], stackBehind(ON_TOP[a], i(6)), small ? i() : null);
+            same("POP BOTH of " + one[0], stackBehind(ON_TOP[a], i(7)), small ? null : i());
+            same("DUP of " + one[0], stackBehind(ON_TOP[a], i(8)), small ? i(one[0], one[0]) : null);
+            same("SWAP of one", stackBehind(ON_TOP[a], i(9)), null);
+            for (int b = 0; b < ON_TOP.length; b++) {
+                int[] two = stackBehind(ON_TOP[a], ON_TOP[b]);
+                boolean both = small && b < SMALL;
+                String what = two[0] + " and " + two[1];
+                same("SWAP of " + what, stackBehind(ON_TOP[a], ON_TOP[b], i(9)), both ? i(two[1], two[0]) : null);
+                int[] left = both ? i() : b < SMALL ? null : i(two[0]);
+                same("POP BOTH of " + what, stackBehind(ON_TOP[a], ON_TOP[b], i(7)), left);
+            }
+        }
+    }
+
+    /** 21 to 30 with the first and the last LOCAL, and each of the like of OBJECT. */
+    private static void edgesOfLocals() {
+        int[] types = {1, 4, 2, 3, 5};
+        for (int k = 0; k < 5; k++) {
+            boolean wide = types[k] == 3 || types[k] == 4;
+            for (int local : i(0, wide ? 8 : 9)) {
+                MapForge x = ends("STORE and LOAD of " + types[k], code(i(types[k]), i(26 + k, local), i(21 + k, local)), types[k]);
+                DUE.is("LOCAL " + local, x.flow(2, local), types[k]);
+                DUE.is("its second LOCAL", wide ? x.flow(2, local + 1) : 0, 0);
+            }
+        }
+        for (int a = 0; a < ON_TOP.length; a++) {
+            int[] one = stackBehind(ON_TOP[a]);
+            boolean reference = a >= 2 && a < SMALL;
+            same("STORE and LOAD of " + one[0], stackBehind(ON_TOP[a], i(30, 9), i(25, 9)), reference ? one : null);
+        }
+        MapForge x = ends("a WIDE one over the second half of another and the first of a third",
+                code(i(4), i(27, 5), i(4), i(27, 7), i(3), i(29, 6)));
+        for (int local = 5; local < 10; local++) {
+            DUE.is("LOCAL " + local, x.flow(6, local), local == 6 ? 3 : 0);
+        }
+        x = ends("a small one over the second half", code(i(4), i(27, 8), i(1), i(26, 9)));
+        DUE.is("LOCAL 8", x.flow(4, 8), 0);
+        DUE.is("LOCAL 9", x.flow(4, 9), 1);
+        x = ends("a small one two behind", code(i(4), i(27, 7), i(1), i(26, 9)));
+        DUE.is("LOCAL 7", x.flow(4, 7), 4);
     }
 
     private static void sums() {

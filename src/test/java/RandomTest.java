@@ -2,8 +2,10 @@ import java.util.Random;
 
 /** Runs of chance, the same ones each time: the program and the Model have to answer alike. */
 public final class RandomTest {
-    private static final int RUNS = 3000;
-    private static final Due DUE = new Due();
+    private static final int RUNS = 4000;
+    /** What an object answers behind so many calls is free. */
+    private static final int MOST_CALLS = 512;
+    private static final Due DUE = new Due("all promises, runs of chance");
 
     private final Random chance;
     private final int run;
@@ -34,7 +36,7 @@ public final class RandomTest {
         for (int k = 0; k < 4; k++) {
             type(number(0, 8), number(-1, 6), chance.nextInt(3) == 0);
         }
-        for (int round = 0; round < 2; round++) {
+        for (int round = 0; round < 2 && calls < MOST_CALLS / 2; round++) {
             method(number(0, 7), number(0, 2), chance.nextBoolean());
             for (int k = chance.nextInt(5); k > 0; k--) {
                 argument();
@@ -60,6 +62,9 @@ public final class RandomTest {
 
     private void due(String call, int got, int want) {
         calls++;
+        if (calls > MOST_CALLS) {
+            return;
+        }
         DUE.is("run " + run + ", call " + calls + ": " + call, got, want);
     }
 
@@ -125,10 +130,15 @@ public final class RandomTest {
         }
         for (int k = 0; k < 40 && isWrong(); k++) {
             int p = chance.nextInt(size);
-            if (x.code(p, 0) >= 31 && x.code(p, 0) <= 34) {
-                change(p, x.code(p, 0), 0, p + 1);
+            int op = opAt(p);
+            if (op >= 31 && op <= 34) {
+                change(p, op, 0, p + 1);
             }
         }
+    }
+
+    private int opAt(int p) {
+        return p < model.code.size() ? model.code.get(p).op() : MapForge.NONE;
     }
 
     private boolean isWrong() {
@@ -172,11 +182,11 @@ public final class RandomTest {
         add(number(18, 19), 0, 0);
         int last = model.code.size();
         add(chance.nextBoolean() ? 6 : 20, 0, 0);
-        if (x.code(last, 0) == 6) {
+        if (opAt(last) == 6) {
             add(31, 0, starts[chance.nextInt(5)]);
         }
         for (int p = 0; p < last; p++) {
-            int op = x.code(p, 0);
+            int op = opAt(p);
             if (op == 32 || op == 33) {
                 change(p, op, 0, starts[chance.nextInt(5)]);
             }
@@ -184,7 +194,7 @@ public final class RandomTest {
         int end = number(1, last);
         handle(number(0, end - 1), end, last, number(0, 7));
         if (isWrong()) {
-            change(last - 1, 37 - x.code(last - 1, 0), 0, 0);
+            change(last - 1, 37 - opAt(last - 1), 0, 0);
         }
         isWrong();
     }
