@@ -16,6 +16,7 @@ public final class FlowTest {
         objects();
         constructors();
         joins();
+        laterOnTheStack();
         handlers();
         wholeness();
         DUE.end("FlowTest");
@@ -152,6 +153,17 @@ public final class FlowTest {
         x = ends("a small one over the second half", code(i(4), i(27, 8), i(1), i(26, 9)));
         DUE.is("LOCAL 8", x.flow(4, 8), 0);
         DUE.is("LOCAL 9", x.flow(4, 9), 1);
+        x = ends("a small one over the second half in LOCAL 1", code(i(4), i(27, 0), i(1), i(26, 1)));
+        DUE.is("LOCAL 0", x.flow(4, 0), 0);
+        DUE.is("LOCAL 1", x.flow(4, 1), 1);
+        x = ends("a WIDE one over LOCALS 8 and 9", code(i(1), i(26, 9), i(1), i(26, 8), i(4), i(27, 8)));
+        DUE.is("LOCAL 8", x.flow(6, 8), 4);
+        DUE.is("LOCAL 9", x.flow(6, 9), 0);
+        x = ends("a small one before others", code(i(2), i(28, 9), i(4), i(27, 6), i(1), i(26, 8), i(1), i(26, 5)));
+        DUE.is("LOCAL 5", x.flow(8, 5), 1);
+        DUE.is("LOCAL 6", x.flow(8, 6), 4);
+        DUE.is("LOCAL 8", x.flow(8, 8), 1);
+        DUE.is("LOCAL 9", x.flow(8, 9), 2);
         x = ends("a small one two behind", code(i(4), i(27, 7), i(1), i(26, 9)));
         DUE.is("LOCAL 7", x.flow(4, 7), 4);
     }
@@ -392,6 +404,17 @@ public final class FlowTest {
         DUE.is("8 in the loop", x.flow(4, 8), 16 + 7);
         DUE.is("9 behind LOAD 3", x.flow(8, 9), 16 * 3 + 7);
         DUE.is("check of the loop", x.check(), MapForge.NONE);
+    }
+
+    /** A TYPE on the STACK alone goes up behind its PLACE when a later way comes to it. */
+    private static void laterOnTheStack() {
+        MapForge x = family(DUE.method(0, 0, false, i(25, 1), i(0), i(30, 9), i(25, 0), i(1), i(32, 1), i(18)));
+        DUE.right("a loop with an OBJECT on the STACK", x, true);
+        DUE.is("where they come together", x.flow(1, 10), 16 * 2 + 7);
+        DUE.is("behind it, on the STACK", x.flow(2, 10), 16 * 2 + 7);
+        DUE.is("behind it, in a LOCAL", x.flow(3, 9), 16 * 2 + 7);
+        DUE.is("at the end", x.flow(6, 9), 16 * 2 + 7);
+        DUE.is("check", x.check(), MapForge.NONE);
     }
 
     private static void handlers() {

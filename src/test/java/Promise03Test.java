@@ -157,15 +157,19 @@ public final class Promise03Test {
 
     private static void nothingIsLeftOver() {
         DUE.edge("what was there before does nothing any more");
-        MapForge x = DUE.method(0, 0, false, i(39, 0), i(31, 0), i(35, 2));
+        MapForge x = DUE.method(0, 0, false, i(31, 1), i(31, 2), i(20));
         x.argument(1);
         x.argument(2);
-        x.handle(0, 50, 1, 3);
-        x.method(0, 0, false);
+        x.handle(0, 50, 2, 3);
+        DUE.is("make(), the STACKS of PLACE 2 differ", x.make(), MapForge.WRONG);
+        DUE.is("change(1)", x.change(1, 18, 0, 0), true);
+        DUE.is("make()", x.make(), 2);
+        DUE.is("method(0, 0, false)", x.method(0, 0, false), true);
         DUE.write(x, i(0), i(0), i(18));
         DUE.is("make()", x.make(), 0);
+        DUE.is("check()", x.check(), MapForge.NONE);
         DUE.is("flow(0, 0)", x.flow(0, 0), 0);
-        DUE.is("flow(1, 20)", x.flow(1, 20), 0);
+        DUE.is("flow(2, 20)", x.flow(2, 20), 0);
         DUE.is("code(2, 3)", x.code(2, 3), 2);
         DUE.is("count(3)", x.count(3), 3);
     }

@@ -17,6 +17,8 @@ public final class Promise07Test {
         oneInstruction();
         behindTheCode();
         objectAlone();
+        fourAtOnce();
+        roomInTheHandler();
         countsAtOnce();
         DUE.end("Promise07Test");
     }
@@ -166,6 +168,34 @@ public final class Promise07Test {
             DUE.is("flow(4, 10)", x.flow(4, 10), 16 * c + 7);
             DUE.is("flow(4, 4)", x.flow(4, 4), 0);
         }
+    }
+
+    private static void fourAtOnce() {
+        DUE.edge("all of 4 HANDLERS count, the last too");
+        MapForge x = DUE.method(0, 0, false, i(0), i(18), i(20), i(20), i(20), i(20));
+        for (int k = 0; k < 4; k++) {
+            DUE.is("make() with " + k, x.make(), MapForge.WRONG);
+            DUE.is("handle(0, 1, " + (2 + k) + ", " + k + ")", x.handle(0, 1, 2 + k, k), k + 1);
+        }
+        DUE.is("make()", x.make(), 4);
+        DUE.is("check()", x.check(), MapForge.NONE);
+        for (int k = 0; k < 4; k++) {
+            DUE.is("flow(" + (2 + k) + ", 10)", x.flow(2 + k, 10), 16 * k + 7);
+        }
+        DUE.is("cut", x.cut(x.map(-1) - 4), 4);
+        DUE.is("check() without the last row", x.check(), 0);
+    }
+
+    private static void roomInTheHandler() {
+        DUE.edge("the STACK of a HANDLER has 7 SLOTS free, whatever was on it before");
+        MapForge x = DUE.method(0, 0, false, i(3), i(3), i(3), i(3), i(18), i(3), i(3), i(3), i(1), i(18));
+        DUE.is("handle(4, 5, 5, 0)", x.handle(4, 5, 5, 0), 1);
+        DUE.is("make()", x.make(), 1);
+        DUE.is("check()", x.check(), MapForge.NONE);
+        DUE.is("flow(9, 20)", x.flow(9, 20), 5);
+        DUE.is("change(8, 3)", x.change(8, 3, 0, 0), true);
+        DUE.is("make() with 9 SLOTS", x.make(), MapForge.WRONG);
+        DUE.is("check()", x.check(), 8);
     }
 
     private static void countsAtOnce() {

@@ -12,6 +12,7 @@ public final class Promise08Test {
         deltas();
         lists();
         types();
+        nothingIsLeftOver();
         DUE.end("Promise08Test");
     }
 
@@ -105,6 +106,8 @@ public final class Promise08Test {
         DUE.edge("WRONG: at a row THIS IS RAW, but RAW THIS is in no LOCAL");
         wrong(DUE.method(0, 2, false, i(25, 0), i(1), i(26, 0), i(31, 4), i(36, 0), i(18)));
         wrong(DUE.method(0, 2, false, i(1), i(32, 4), i(25, 0), i(36, 0), i(5), i(20)));
+        DUE.edge("WRONG: THIS IS RAW in no LOCAL at a row of PLACE 0");
+        wrong(DUE.method(0, 2, false, i(1), i(26, 0), i(31, 0)));
         DUE.edge("THIS IS RAW in no LOCAL, and no row is there");
         right(DUE.method(0, 2, false, i(25, 0), i(1), i(26, 0), i(36, 0), i(18)), 0);
         DUE.edge("at a row THIS IS RAW, and RAW THIS is in the last LOCAL alone");
@@ -267,6 +270,10 @@ public final class Promise08Test {
         bytes(shorter(1), 1, 250, 0, 7);
         bytes(shorter(2), 1, 249, 0, 10);
         bytes(shorter(3), 1, 248, 0, 13);
+        DUE.edge("without its last 2, of which one is a TOP");
+        MapForge x = code(i(1), i(26, 2), i(31, 3), i(1), i(32, 7), i(5), i(30, 2), i(18));
+        x.argument(1);
+        bytes(x, 2, 253, 0, 6, 0, 1, 249, 0, 6);
         DUE.edge("without its last 4: 255");
         bytes(shorter(4), 1, 255, 0, 16, 0, 0, 0, 0);
         DUE.edge("1 to 3 more");
@@ -315,5 +322,32 @@ public final class Promise08Test {
         }
         DUE.write(x, i(35, 6), i(31, 48), i(36, 6), i(18));
         bytes(x, 1, 255, 0, 142, 0, 0, 0, 2, 7, 0, 0, 8, 0, 136);
+    }
+
+    /** Nothing of a METHOD that was there before is in the rows of this one. */
+    private static void nothingIsLeftOver() {
+        DUE.edge("a row that is due no more is made no more, at the first PLACE and at the 50th");
+        MapForge x = new MapForge();
+        DUE.write(x, i(0), i(1), i(32, 49), i(1), i(32, 0));
+        for (int p = 5; p < 49; p++) {
+            DUE.write(x, i(0));
+        }
+        DUE.write(x, i(18));
+        DUE.is("make()", x.make(), 2);
+        DUE.is("change(2)", x.change(2, 32, 0, 3), true);
+        DUE.is("change(4)", x.change(4, 32, 0, 5), true);
+        DUE.is("make()", x.make(), 2);
+        DUE.map(x, 5, 3);
+        DUE.edge("a 50th PLACE that was come to and is no more");
+        DUE.is("change(48)", x.change(48, 18, 0, 0), true);
+        DUE.is("make()", x.make(), MapForge.WRONG);
+        DUE.is("change(48)", x.change(48, 0, 0, 0), true);
+        DUE.is("make()", x.make(), 2);
+        DUE.edge("a METHOD behind one that was WRONG half way");
+        MapForge y = code(i(31, 2), i(18), i(1), i(32, 1), i(6));
+        DUE.is("make()", y.make(), MapForge.WRONG);
+        DUE.is("method(0, 0, false)", y.method(0, 0, false), true);
+        DUE.write(y, i(31, 3), i(6), i(18), i(1), i(31, 1));
+        bytes(y, 2, 67, 1, 1);
     }
 }

@@ -204,6 +204,14 @@ public final class Promise10Test {
     }
 
     private static void slots() {
+        DUE.edge("8 SLOTS in rows that are read once more");
+        MapForge x = DUE.sixPlaces();
+        DUE.lay(x, 255, 0, 0, 0, 0, 0, 4, 3, 4, 3, 4, 255, 0, 0, 0, 0, 0, 4, 3, 4, 3, 4);
+        for (int turn = 0; turn < 3; turn++) {
+            DUE.is("count(4)", x.count(4), 2);
+            DUE.is("row(1, 13)", x.row(1, 13), 4);
+            DUE.is("patch(0, 255)", x.patch(0, 255), true);
+        }
         DUE.edge("8 SLOTS on the STACK");
         sound(1, 255, 0, 0, 0, 0, 0, 8, 0, 1, 2, 5, 6, 1, 1, 1);
         sound(1, 255, 0, 0, 0, 0, 0, 4, 3, 4, 3, 4);
@@ -225,6 +233,23 @@ public final class Promise10Test {
         for (int n = 1; n < row.length; n++) {
             broken(Arrays.copyOf(row, n));
         }
+    }
+
+    private static MapForge fiftyPlaces() {
+        MapForge x = new MapForge();
+        for (int k = 0; k < 49; k++) {
+            x.add(0, 0, 0);
+        }
+        x.add(18, 0, 0);
+        return x;
+    }
+
+    /** How many bytes the MAP has with these behind the others. */
+    private static int append(MapForge x, int size, int[] bytes) {
+        for (int k = 0; k < bytes.length; k++) {
+            x.patch(size + k, bytes[k]);
+        }
+        return size + bytes.length;
     }
 
     private static void missingBytes() {
@@ -249,6 +274,17 @@ public final class Promise10Test {
         DUE.edge("BROKEN: bytes are missing behind 255");
         cutAnywhere(255, 0, 5, 0, 0, 0, 0);
         cutAnywhere(255, 0, 5, 0, 2, 7, 0, 1, 4, 0, 2, 1, 7, 0, 2);
+        DUE.edge("BROKEN: bytes are missing behind 400");
+        MapForge x = fiftyPlaces();
+        int size = 0;
+        for (int row = 0; row < 30; row++) {
+            size = append(x, size, row < 26 ? i(255, 0, 0, 0, 2, 7, 0, 1, 7, 0, 1, 0, 2, 1, 1) : i(64, 1));
+        }
+        DUE.is("count(4)", x.count(4), 30);
+        size = append(x, size, i(251, 0));
+        DUE.is("map(-1)", x.map(-1), 400);
+        DUE.is("check()", x.check(), MapForge.BROKEN);
+        DUE.is("count(4)", x.count(4), MapForge.BROKEN);
         DUE.edge("BROKEN: bytes are missing of a later row");
         broken(0, 0, 64);
         broken(5, 64);
@@ -292,11 +328,7 @@ public final class Promise10Test {
         }
         DUE.edge("more rows than PLACES can not rise");
         broken(0, 0, 0, 0, 0, 0, 0);
-        MapForge y = new MapForge();
-        for (int k = 0; k < 49; k++) {
-            y.add(0, 0, 0);
-        }
-        y.add(18, 0, 0);
+        MapForge y = fiftyPlaces();
         for (int k = 0; k < 51; k++) {
             y.patch(k, 0);
             DUE.is("check() with " + (k + 1) + " rows", y.check(), k < 50 ? MapForge.NONE : MapForge.BROKEN);
@@ -310,6 +342,17 @@ public final class Promise10Test {
         check(x, 1, 64 + 1, 2);
         check(x, 1, 1);
         check(x, 2, 2);
+        DUE.edge("8 TYPES on the STACK FIT, or the last of them does not");
+        MapForge w = code(i(1), i(1), i(1), i(1), i(1), i(1), i(1), i(1), i(0), i(18));
+        check(w, MapForge.NONE, 255, 0, 8, 0, 0, 0, 8, 1, 1, 1, 1, 1, 1, 1, 1);
+        check(w, 8, 255, 0, 8, 0, 0, 0, 8, 1, 1, 1, 1, 1, 1, 1, 2);
+        check(w, 8, 255, 0, 8, 0, 0, 0, 7, 1, 1, 1, 1, 1, 1, 1);
+        DUE.edge("what was above on the STACK before counts no more");
+        check(code(i(1), i(2), i(6), i(0), i(18)), MapForge.NONE, 64 + 3, 1);
+        DUE.edge("LOCAL 9 FITS, or does not");
+        MapForge v = code(i(1), i(26, 9), i(0), i(18));
+        check(v, MapForge.NONE, 255, 0, 3, 0, 10, 0, 0, 0, 0, 0, 0, 0, 0, 0, 1, 0, 0);
+        check(v, 2, 255, 0, 3, 0, 10, 0, 0, 0, 0, 0, 0, 0, 0, 0, 2, 0, 0);
         DUE.edge("BAD 0: the FIRST FRAME does not FIT a row of PLACE 0");
         check(x, 0, 252, 0, 0, 1);
         check(x, 0, 64, 1);
